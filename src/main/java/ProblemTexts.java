@@ -373,14 +373,19 @@ public final class ProblemTexts {
 
         /** Works below 0, since the least long has no counterpart above it. */
         void addSize(long number) {
-            long below = number > 0 ? -number : number;
-            long unit = 1;
-            for (int digits = 1; digits < 19 && below / unit <= -10; digits++) {
-                unit *= 10;
+            long rest = number > 0 ? -number : number;
+            int end = length + 1;
+            for (long more = rest / 10; more != 0; more /= 10) {
+                end++;
             }
-            for (; unit > 0; unit /= 10) {
-                add('0' - (int) (below / unit % 10));
+            if (end > held.length) {
+                return;
             }
+            for (int i = end - 1; i >= length; i--) {
+                held[i] = (byte) ('0' - rest % 10);
+                rest /= 10;
+            }
+            length = end;
         }
     }
 
