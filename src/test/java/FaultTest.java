@@ -12,6 +12,8 @@ public final class FaultTest {
         places(check);
         secondHolders(check);
         depth(check);
+        endsTooEarly(check);
+        wholeLength(check);
         modelStays(check);
         check.end();
     }
@@ -257,6 +259,10 @@ public final class FaultTest {
         check.fault(v + "goal min sum(i in s:n[^i]);");
         check.rows(v + "rule r for i in t,j in s:x[j]=d[i,j];", 6);
         check.fault(v + "rule r for i in t,j in s:x[i]=d[^j,i];");
+        check.fault(v + "set u=3..4;goal min sum(i in u:x[^i]);");
+        check.fault(v + "set u=0..1;goal min sum(i in u:x[^i]);");
+        check.fault(v + "set u=0..4;goal min sum(i in u:x[^i]);");
+        check.fault(v + "set u=1..4;goal min sum(i in u:x[^i]);");
     }
 
     private static void secondHolders(Check check) {
@@ -300,6 +306,42 @@ public final class FaultTest {
         check.rows("set s=0..0;rule r for z in s,y in s:((((((((1))))))))=((((((((1))))))));", 1);
         check.rows(s + "sum(a in s,b in s:sum(c in s,d in s:sum(e in s,f in s:sum(g in s,h in s:"
                 + "sum(i in s,j in s:sum(k in s,l in s:sum(m in s,n in s:sum(o in s,p in s:a+p))))))));", 0);
+    }
+
+    /** Behind each TOKEN of a declaration but its last one the end can't stand, nor another declaration. */
+    private static void endsTooEarly(Check check) {
+        String[] declarations = {"set s = 1 .. 2 ;", "data c = - 5 ;", "data d [ s ] = 1 - 2 ;",
+            "data e [ s , s ] = 1 2 3 - 4 ;", "var x in 0 .. 3 ;", "var y [ s ] in - 3 .. - 1 ;",
+            "var z [ s , s ] in 0 .. 1 ;", "rule p : 1 <= x ;",
+            "rule q for i in s : y [ i ] * ( c + 1 ) = e [ i , 2 ] ;",
+            "rule r for i in s , j in s : - sum ( k in s , l in s : z [ k , l ] ) - i >= z [ i , j ] * j ;",
+            "goal max sum ( i in s : d [ i ] * y [ i ] ) - 7 ;"};
+        StringBuilder ahead = new StringBuilder();
+        for (String declaration : declarations) {
+            String[] tokens = declaration.split(" ");
+            StringBuilder begun = new StringBuilder(ahead);
+            for (int i = 0; i < tokens.length - 1; i++) {
+                begun.append(tokens[i]);
+                check.fault(begun + "^");
+                check.fault(begun + " \n^");
+                check.fault(begun + " ^set t=0..1;");
+                check.fault(begun + " ^@");
+                begun.append(' ');
+            }
+            // only what later declarations speak of is kept, for the room
+            ahead.append(declaration.startsWith("rule") ? "" : declaration.replace(" ;", ";"));
+        }
+    }
+
+    private static void wholeLength(Check check) {
+        String most = "goal min 1" + "+1".repeat(194);
+        check.rows(most + ";\n", 0);
+        check.rows(most + "; ", 0);
+        check.fault(most + ";^1");
+        check.fault(most + "+1^");
+        check.fault(most + "+^*");
+        check.fault("^" + ";".repeat(400));
+        check.rows(" ".repeat(390) + "goal min1;", 0);
     }
 
     private static void modelStays(Check check) {

@@ -82,6 +82,10 @@ public final class PointTest {
         x.put(1, 4);
         check.due("broken(0) at 0, 4", x.broken(0), 3);
         check.due("broken(1) at 0, 4", x.broken(1), NONE);
+        x.put(0, 1);
+        check.due("broken(0) at 1, 4", x.broken(0), 0);
+        check.due("broken(1) at 1, 4", x.broken(1), 1);
+        check.due("broken(2) at 1, 4", x.broken(2), 3);
         check.due("broken(-1) without rows", new ProblemTexts().broken(-1), UNKNOWN);
     }
 
