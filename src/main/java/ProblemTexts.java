@@ -298,9 +298,9 @@ public final class ProblemTexts {
     }
 
     private boolean isKept(int row) {
-        long sum = model.atPoint(model.factors[row]);
-        int relation = declared.relations[declared.rules.owner(row)];
-        int compared = Long.compare(sum, model.rights[row]);
+        int rule = declared.rules.owner(row);
+        int relation = rule == NONE ? 0 : declared.relations[rule];
+        int compared = Long.compare(model.atPoint(model.factors[row]), model.rights[row]);
         return compared == 0 || relation < 0 && compared < 0 || relation > 0 && compared > 0;
     }
 
@@ -1178,7 +1178,8 @@ public final class ProblemTexts {
         void make(Declared declared) {
             of = declared;
             for (int column = 0; column < of.vars.total && column < MOST_COLUMNS; column++) {
-                point[column] = of.lows[of.vars.owner(column)];
+                int k = of.vars.owner(column);
+                point[column] = k == NONE ? 0 : of.lows[k];
             }
             for (int row = 0; row < of.rules.total && row < MOST_ROWS; row++) {
                 makeRow(row);
@@ -1190,6 +1191,9 @@ public final class ProblemTexts {
 
         private void makeRow(int row) {
             int rule = of.rules.owner(row);
+            if (rule == NONE) {
+                return;
+            }
             numbers[0] = of.rules.firstNumber(row);
             numbers[1] = of.rules.secondNumber(row);
             start(factors[row]);
@@ -1223,7 +1227,7 @@ public final class ProblemTexts {
                 addInner(factor, times, depth);
                 return;
             }
-            int column = of.vars.spot(factor.which, numberAt(factor.one), numberAt(factor.two));
+            int column = of.vars.spot(factor.which, numberFor(factor.one), numberFor(factor.two));
             if (column >= 0 && column < with.length) {
                 with[column] += times;
             }
@@ -1236,9 +1240,8 @@ public final class ProblemTexts {
             int ones = of.sets.sizeOf(factor.one);
             int twos = of.sets.sizeOf(factor.two);
             for (int i = 0; i < ones; i++) {
+                stand(factor.which, factor.one, i);
                 for (int j = 0; j < twos; j++) {
-                    // anew each time: sums within use the slots behind these alone
-                    stand(factor.which, factor.one, i);
                     stand(factor.which + 1, factor.two, j);
                     addSum(factor.inner, times, depth + 1);
                 }
@@ -1257,9 +1260,9 @@ public final class ProblemTexts {
                 case OF_NUMBER:
                     return factor.which;
                 case OF_INDEX:
-                    return numberAt(~factor.which);
+                    return numberFor(~factor.which);
                 case OF_TABLE:
-                    return of.valueAt(of.tables.spot(factor.which, numberAt(factor.one), numberAt(factor.two)));
+                    return of.valueAt(of.tables.spot(factor.which, numberFor(factor.one), numberFor(factor.two)));
                 default:
                     long kept = without;
                     without = 0;
@@ -1270,7 +1273,7 @@ public final class ProblemTexts {
             }
         }
 
-        private int numberAt(int place) {
+        private int numberFor(int place) {
             if (place >= 0) {
                 return place;
             }

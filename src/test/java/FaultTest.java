@@ -124,6 +124,9 @@ public final class FaultTest {
         check.fault("set a=0..1;data d[a,a^,a]=1;");
         check.fault("set a=0..1;data d[a,^b]=1;");
         check.fault("data d ^in 1;");
+        check.fault("data d[^=1;");
+        check.fault("set a=0..1;data d[a,^=1;");
+        check.fault("var x[^in 0..1;");
         check.rows("data d=-0;", 0);
         check.fault("data d=^;");
         check.fault("data d=1 ^2;");
