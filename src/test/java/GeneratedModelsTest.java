@@ -45,8 +45,11 @@ public final class GeneratedModelsTest {
         random = new Random(seed);
     }
 
-    public static void main(String[] args) {
-        Check check = new Check();
+    public static void main(String[] args) throws IllegalAccessException {
+        Check.run(GeneratedModelsTest.class);
+    }
+
+    static void modelsMadeAtRandom(Check check) {
         int read = 0;
         for (int seed = 0; seed < MODELS; seed++) {
             GeneratedModelsTest made = new GeneratedModelsTest(seed);
@@ -57,7 +60,12 @@ public final class GeneratedModelsTest {
             }
         }
         check.due("enough models fit into a text", read > MODELS / 4 ? 1 : 0, 1);
-        check.end();
+    }
+
+    static String textOf(long seed) {
+        GeneratedModelsTest made = new GeneratedModelsTest(seed);
+        made.write();
+        return made.text.toString();
     }
 
     private void write() {
@@ -336,31 +344,32 @@ public final class GeneratedModelsTest {
     }
 
     private void compare(Check check) {
-        ProblemTexts x = new ProblemTexts();
+        Scene fed = Scene.fresh().feed(text.toString());
         int columns = columnNames.size();
         boolean large = columns > 40 || rows.size() > 40 || work > 20000;
-        check.due("read of " + text, Check.read(x, text.toString()), large ? ProblemTexts.SIZE : rows.size());
+        check.due("read of " + text, fed.answer(new Call("read")), large ? ProblemTexts.SIZE : rows.size());
         if (large) {
             return;
         }
-        check.due("columns of " + text, x.count(4), columns);
-        check.due("work of " + text, x.count(6), work);
+        Scene x = fed.and("read");
+        check.due("columns of " + text, x.ask("count", 4), columns);
+        check.due("work of " + text, x.ask("count", 6), work);
         for (int row = 0; row < rows.size(); row++) {
             compareRow(check, x, row);
         }
         for (int i = 0; goal != null && i < columns; i++) {
-            check.due("price(" + i + ") of " + text, x.price(i), goal[i]);
+            check.due("price(" + i + ") of " + text, x.ask("price", i), goal[i]);
         }
-        check.due("price(-1) of " + text, x.price(-1), goal == null ? ProblemTexts.STATE : goal[columns]);
+        check.due("price(-1) of " + text, x.ask("price", -1), goal == null ? ProblemTexts.STATE : goal[columns]);
     }
 
-    private void compareRow(Check check, ProblemTexts x, int row) {
+    private void compareRow(Check check, Scene x, int row) {
         int columns = columnNames.size();
         StringBuilder want = new StringBuilder();
         long left = 0;
         for (int i = 0; i < columns; i++) {
             long factor = rows.get(row)[i];
-            check.due("factor(" + row + ", " + i + ") of " + text, x.factor(row, i), factor);
+            check.due("factor(" + row + ", " + i + ") of " + text, x.ask("factor", row, i), factor);
             left += factor * lows.get(i);
             if (factor != 0) {
                 String sign = want.length() == 0 ? factor < 0 ? "-" : "" : factor < 0 ? " - " : " + ";
@@ -370,13 +379,13 @@ public final class GeneratedModelsTest {
         }
         long right = -rows.get(row)[columns];
         int relation = relations.get(row);
-        check.due("right(" + row + ") of " + text, x.right(row), right);
-        check.due("left(" + row + ") of " + text, x.left(row), left);
+        check.due("right(" + row + ") of " + text, x.ask("right", row), right);
+        check.due("left(" + row + ") of " + text, x.ask("left", row), left);
         boolean holds = relation < 0 ? left <= right : relation == 0 ? left == right : left >= right;
-        check.due("holds(" + row + ") of " + text, x.holds(row), holds ? 1 : 0);
+        check.due("holds(" + row + ") of " + text, x.ask("holds", row), holds ? 1 : 0);
         want.append(want.length() == 0 ? "0" : "").append(relation < 0 ? " <= " : relation == 0 ? " = " : " >= ");
         String line = heads.get(row) + want + right + ";";
-        check.due("print(" + row + ") of " + text, x.print(row), line.length());
-        check.due("OUT of row " + row + " of " + text, Check.out(x), line);
+        check.due("print(" + row + ") of " + text, x.answer(new Call("print", row)), line.length());
+        check.due("OUT of row " + row + " of " + text, x.and("print", row).out(), line);
     }
 }

@@ -1,3 +1,5 @@
+import java.io.File;
+import java.io.IOException;
 import java.lang.reflect.Constructor;
 import java.lang.reflect.Field;
 import java.lang.reflect.Method;
@@ -10,7 +12,7 @@ import java.util.TreeSet;
 import java.util.regex.Matcher;
 import java.util.regex.Pattern;
 
-/** The public face, the constants, and those rules of LANGUAGE.md that can be seen without reading. */
+/** The public face, and those rules of LANGUAGE.md that can be seen without reading; a test for each promise. */
 public final class LanguageTest {
     private static final String[] FACE = {"int feed(int, long)", "int cut(int)", "int read()", "int name(int, int, int)",
         "int set(int, int)", "int data(int, int, int)", "int column(int, int, int)", "int about(int, int)",
@@ -18,24 +20,11 @@ public final class LanguageTest {
         "int put(int, int)", "long left(int)", "int holds(int)", "int broken(int)", "long worth()", "int print(int)",
         "int out(int)"};
 
-    public static void main(String[] args) throws Exception {
-        Check check = new Check();
-        constants(check);
-        face(check);
-        nested(check);
-        source(check, Files.readString(Path.of("src/main/java/ProblemTexts.java")));
-        check.end();
+    public static void main(String[] args) throws IllegalAccessException {
+        Check.run(LanguageTest.class);
     }
 
-    private static void constants(Check check) {
-        check.due("NONE", ProblemTexts.NONE, -1);
-        check.due("UNKNOWN", ProblemTexts.UNKNOWN, -100001);
-        check.due("OUTSIDE", ProblemTexts.OUTSIDE, -100002);
-        check.due("STATE", ProblemTexts.STATE, -100003);
-        check.due("SIZE", ProblemTexts.SIZE, -100004);
-    }
-
-    private static void face(Check check) {
+    static void face(Check check) {
         Set<String> want = new TreeSet<>(Arrays.asList(FACE));
         Set<String> got = new TreeSet<>();
         for (Method method : ProblemTexts.class.getDeclaredMethods()) {
@@ -62,7 +51,7 @@ public final class LanguageTest {
         check.due("the class", Modifier.toString(ProblemTexts.class.getModifiers()), "public final");
     }
 
-    private static void nested(Check check) {
+    static void nested(Check check) {
         Set<String> names = new TreeSet<>();
         for (String call : FACE) {
             names.add(call.substring(call.indexOf(' ') + 1, call.indexOf('(')));
@@ -83,7 +72,8 @@ public final class LanguageTest {
         }
     }
 
-    private static void source(Check check, String source) {
+    static void source(Check check) throws IOException {
+        String source = Files.readString(Path.of("src/main/java/ProblemTexts.java"));
         String code = source.replaceAll("(?s)/\\*.*?\\*/", "").replaceAll("//[^\n]*", "")
                 .replaceAll("\"(\\\\.|[^\"\\\\])*\"", "\"\"");
         String[] words = {"throw", "throws", "try", "catch", "synchronized", "assert", "package", "double", "float",
@@ -100,6 +90,19 @@ public final class LanguageTest {
             check.due("an import", imports.group(), "import java.util.Arrays;");
         }
         lengths(check, source);
+    }
+
+    static void eachPromiseHasATest(Check check) {
+        String[] tests = new File("src/test/java").list();
+        for (int promise = 1; promise <= FACE.length + 1; promise++) {
+            String call = promise == 1 ? "newobject" : FACE[promise - 2].replaceAll("^[a-z]+ |\\(.*", "");
+            String want = String.format("promise%02d%stest.java", promise, call);
+            int found = 0;
+            for (String test : tests == null ? new String[0] : tests) {
+                found += test.toLowerCase().equals(want) ? 1 : 0;
+            }
+            check.due("tests named " + want, found, 1);
+        }
     }
 
     /** A method starts at a line that ends with { and has a ( ahead of it, and ends at } in the same column. */

@@ -1,8 +1,11 @@
 import java.util.Random;
 
-/** No call throws, for any arguments in any state; and what is refused changes nothing. */
+/** No call throws, for any numbers in any state; and what is refused changes nothing but THE TEXT. */
 public final class RandomCallsTest {
-    private static final int RUNS = 300, CALLS = 512;
+    private static final int RUNS = 400;
+    private static final String[] CALLS = {"feed", "cut", "read", "name", "set", "data", "column", "about", "row",
+        "factor", "right", "price", "count", "put", "left", "holds", "broken", "worth", "print", "out"};
+    private static final int[] TAKES = {2, 1, 0, 3, 2, 3, 3, 2, 2, 2, 1, 1, 1, 2, 1, 1, 1, 0, 1, 1};
     private static final int[] EDGES = {Integer.MIN_VALUE, -100001, -2, -1, 0, 1, 2, 3, 4, 5, 6, 7, 8, 9, 10, 39, 40, 41,
         399, 400, 401, 9999, 10000, Integer.MAX_VALUE};
     private static final String[] PIECES = {"set ", "data ", "var ", "rule ", "goal ", "min ", "max ", "sum(", " in ",
@@ -10,82 +13,58 @@ public final class RandomCallsTest {
         "*", "(", ")", "[", "]", ",", ";", ":", "..", ".", " ", "\n", "@", "set s=1..2;", "var x[s] in -1..3;",
         "data c=4;", "rule r for i in s:x[i]<=c;", "goal max sum(i in s:i*x[i]);", "rule q:x[1]-2*x[2]>=c*c;"};
 
-    public static void main(String[] args) {
-        Check check = new Check();
+    public static void main(String[] args) throws IllegalAccessException {
+        Check.run(RandomCallsTest.class);
+    }
+
+    static void refusedCallsChangeNothing(Check check) {
         for (int seed = 0; seed < RUNS; seed++) {
-            run(check, new Random(seed));
-        }
-        check.end();
-    }
-
-    private static void run(Check check, Random random) {
-        ProblemTexts x = new ProblemTexts();
-        for (int i = 0; i < CALLS; i++) {
-            if (random.nextInt(3) == 0) {
-                Check.feed(x, PIECES[random.nextInt(PIECES.length)]);
-                continue;
+            Random random = new Random(seed);
+            Scene x = run(random);
+            for (int i = 0; i < 12; i++) {
+                Call call = call(random);
+                long answer = x.answer(call);
+                boolean refused = answer <= ProblemTexts.UNKNOWN && answer >= ProblemTexts.SIZE;
+                if (refused && !call.name().equals("read")) {
+                    check.refuses(x, answer, call.name(), call.args());
+                }
             }
-            int call = random.nextInt(20);
-            String before = i % 16 == 0 ? Check.state(x) : null;
-            long answer = answer(x, call, random);
-            boolean refused = answer <= ProblemTexts.UNKNOWN && answer >= ProblemTexts.SIZE;
-            // read and cut change THE TEXT, put the point, print OUT
-            boolean changes = call == 1 || call == 2 || !refused && (call == 0 || call == 13 || call == 18);
-            if (before != null && !changes) {
-                check.due("the state behind call " + call, Check.state(x), before);
+            readChangesTheTextAlone(check, x);
+        }
+    }
+
+    /** Up to 200 calls, among them texts that are nearly right, and two that are. */
+    private static Scene run(Random random) {
+        Scene x = Scene.fresh().feed(PIECES[40] + PIECES[41] + PIECES[42] + PIECES[43] + PIECES[44]).and("read");
+        for (int i = random.nextInt(60); i >= 0; i--) {
+            if (random.nextBoolean()) {
+                x = x.feed(PIECES[random.nextInt(PIECES.length)]);
+            } else {
+                Call call = call(random);
+                x = x.and(call.name(), call.args());
             }
         }
+        return x;
     }
 
-    private static long answer(ProblemTexts x, int call, Random random) {
-        int a = edge(random);
-        int b = edge(random);
-        int c = edge(random);
-        switch (call) {
-            case 0:
-                return x.feed(a, random.nextLong());
-            case 1:
-                return random.nextInt(4) == 0 ? x.cut(a) : 0;
-            case 2:
-                return x.read();
-            case 3:
-                return x.name(a, b, c);
-            case 4:
-                return x.set(a, b);
-            case 5:
-                return x.data(a, b, c);
-            case 6:
-                return x.column(a, b, c);
-            case 7:
-                return x.about(a, b);
-            case 8:
-                return x.row(a, b);
-            case 9:
-                return x.factor(a, b);
-            case 10:
-                return x.right(a);
-            case 11:
-                return x.price(a);
-            case 12:
-                return x.count(a);
-            case 13:
-                return x.put(a, b);
-            case 14:
-                return x.left(a);
-            case 15:
-                return x.holds(a);
-            case 16:
-                return x.broken(a);
-            case 17:
-                return x.worth();
-            case 18:
-                return x.print(a);
-            default:
-                return x.out(a);
+    private static void readChangesTheTextAlone(Check check, Scene x) {
+        long answer = x.answer(new Call("read"));
+        check.due("an answer of read", answer >= 0 && answer <= 40 || answer <= -10 && answer >= -410
+                || answer == ProblemTexts.SIZE ? 1 : 0, 1);
+        if (answer < 0) {
+            check.due("everything behind read", x.and("read").everything(), x.and("cut", 0).everything());
         }
     }
 
-    private static int edge(Random random) {
-        return random.nextInt(3) == 0 ? EDGES[random.nextInt(EDGES.length)] : random.nextInt(4);
+    private static Call call(Random random) {
+        int which = random.nextInt(CALLS.length);
+        long[] args = new long[TAKES[which]];
+        for (int i = 0; i < args.length; i++) {
+            args[i] = random.nextInt(3) == 0 ? EDGES[random.nextInt(EDGES.length)] : random.nextInt(4);
+        }
+        if (which == 0) {
+            args[1] = random.nextLong();
+        }
+        return new Call(CALLS[which], args);
     }
 }
