@@ -95,6 +95,21 @@ public final class Promise04DeclarationsTest {
         check.fault(none + "rule ^cc:1=1;");
     }
 
+    /** All things that there may be, and as many indices around as a text then has room for. */
+    static void allThingsAndTheIndicesAroundHaveNames(Check check) {
+        String text = "set a=1..0;set b=1..0;set c=1..0;set d=1..0;set e=1..0;set f=1..1;" + TABLES + VARS
+                + RULES.substring(0, RULES.indexOf("rule bb"))
+                + "rule bb for ba in f,bd in f:sum(be in f,bf in f:sum(bg in f,bh in f:sum(bi in f:ba+bi+r)))=7;";
+        check.rows(text, 10);
+        Scene x = Scene.model(text);
+        check.answers(x, 1, "factor", 9, 5);
+        check.answers(x, 5, "right", 9);
+        check.due("the tenth rule", x.name(3, 9), "bb");
+        for (String name : new String[] {"a", "f", "g", "l", "m", "r", "s", "aa", "bb", "ba", "bd", "be", "bh"}) {
+            check.fault(text.replace("sum(bi in f:ba+bi+r)))=7;", "sum(^" + name + " in f:ba)))=7;"));
+        }
+    }
+
     static void oneGoalAndNoSecond(Check check) {
         check.rows("goal min 1;", 0);
         check.rows("goal max 1;", 0);

@@ -135,6 +135,12 @@ public final class Promise04FaultsTest {
             check.fault(s + told + "[^-s]" + end);
         }
         check.rows(s + "data d[s,s]=1 2 3 4;", 0);
+        check.fault(s + "data d[^=1;");
+        check.fault(s + "data d[s,^=1 2;");
+        check.fault(s + "data d[s^=1 2;");
+        check.fault(s + "var d[^in 0..1;");
+        check.fault(s + "var d[s,^in 0..1;");
+        check.fault(s + "var d[s ^in 0..1;");
     }
 
     static void aValueIsANumberOrMinusANumber(Check check) {
@@ -350,6 +356,30 @@ public final class Promise04FaultsTest {
             check.fault(s + other + "2*^(1" + ")".repeat(9) + ";");
             check.fault(s + other + "2*^sum(z in s:1" + ")".repeat(9) + ";");
         }
+    }
+
+    /** What stands within 8 is worked out, in the goal and on both sides of a rule, with vars and without. */
+    static void theEighthIsWorkedOut(Check check) {
+        String s = "set s=2..3;var x in 5..5;";
+        String brackets = "(".repeat(8) + "x+7" + ")".repeat(8);
+        String sums = "(".repeat(7) + "sum(i in s:i*x+i*10" + ")".repeat(8);
+        String outer = "sum(i in s:" + "(".repeat(7) + "i*x+i*10" + ")".repeat(8);
+        for (String deep : new String[] {brackets, sums, outer}) {
+            long factor = deep.equals(brackets) ? 1 : 5;
+            long without = deep.equals(brackets) ? 7 : 50;
+            Scene x = Scene.model(s + "rule a:" + deep + "=0;rule b:0=" + deep + ";goal min " + deep + ";");
+            check.answers(x, factor, "factor", 0, 0);
+            check.answers(x, -without, "right", 0);
+            check.answers(x, -factor, "factor", 1, 0);
+            check.answers(x, without, "right", 1);
+            check.answers(x, factor, "price", 0);
+            check.answers(x, without, "price", -1);
+        }
+        String numbers = "(".repeat(7) + "sum(i in s:i" + ")".repeat(8);
+        Scene x = Scene.model(s + "rule a:x*" + numbers + "=" + numbers + ";goal min " + numbers + "*x;");
+        check.answers(x, 5, "factor", 0, 0);
+        check.answers(x, 5, "right", 0);
+        check.answers(x, 5, "price", 0);
     }
 
     static void whatIsClosedIsNotAround(Check check) {

@@ -104,6 +104,46 @@ public final class Promise04ReadTest {
         }
     }
 
+    /** Texts with things of all sorts, read in turn, each as if it were the first. */
+    static void manyTextsAreReadInTurn(Check check) {
+        String[] texts = {"set s=1..3;set t=0..1;data c[s]=3 -4 5;data d=9;var x[s] in -1..5;var y in 2..3;"
+            + "rule r for i in s:x[i]<=c[i]+y;rule q:y-x[1]>=2;goal max x[1]+2*y-9;",
+            "set t=4..4;data e[t]=6;var z[t] in 1..2;rule p for i in t:z[i]=e[i];goal min z[4]-1;", "rule w:1=2;",
+            "data f=7;var v in 0..8;goal min f*v;", ""};
+        Scene x = Scene.fresh();
+        for (int i = 0; i < 3 * texts.length; i++) {
+            String text = texts[i % texts.length];
+            x = x.feed(text).and("read");
+            check.due("everything behind " + text, x.everything(), Scene.model(text).everything());
+        }
+    }
+
+    /** Wherever a text ends too early, the next one is read as if it had not been. */
+    static void aRightTextIsReadBehindARefusedOne(Check check) {
+        String whole = "set s=1..3;set t=2..3;data c[s]=3 -4 5;data d[t,t]=1 2 3 4;var x[s] in -1..5;var y in 2..3;"
+                + "rule r for i in s,j in t:x[i]<=sum(k in t:d[k,j]*(c[k]+y))-j;goal max sum(i in s:(x[i]))+2*y-9;";
+        String next = "set t=1..2;data d[t]=8 9;var k in 4..6;var r in 0..1;rule c:k=d[2];"
+                + "rule i for j in t:sum(s in t:s*k)>=d[j]*r;goal min k;";
+        String want = Scene.model(next).everything();
+        String two = Scene.model(next).feed(next).and("read").everything();
+        check.due("a text that is read twice", two, want);
+        for (int bytes = 0; bytes < whole.length(); bytes++) {
+            Scene x = Scene.fresh().feed(whole.substring(0, bytes) + "@").and("read").feed(next).and("read");
+            check.due("everything behind " + bytes + " bytes", x.everything(), want);
+        }
+    }
+
+    static void sizeLeavesNothingForTheNextText(Check check) {
+        String large = "set s=1..8;data c[s]=1 2 3 4 5 6 7 8;var x[s,s] in -1..5;rule r for i in s,j in s:x[i,j]<=c[i];"
+                + "goal max sum(i in s:x[i,i]);";
+        String next = "set t=1..2;data d[t]=8 9;var k in 4..6;rule c for i in t:k=d[i];";
+        Scene x = Scene.fresh();
+        for (int i = 0; i < 8; i++) {
+            x = x.feed(large).and("read");
+            check.due("everything", x.feed(next).and("read").everything(), Scene.model(next).everything());
+        }
+    }
+
     static void aTextIsReadAnew(Check check) {
         String text = "set s=1..2;var x[s] in 0..3;rule r for i in s:2*x[i]>=i;goal min x[1];";
         Scene once = Scene.model(text);

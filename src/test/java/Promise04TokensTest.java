@@ -186,6 +186,13 @@ public final class Promise04TokensTest {
         check.fault("data d=^abcde;");
     }
 
+    static void asManyTokensAsBytes(Check check) {
+        check.fault("^" + ";".repeat(400));
+        check.fault("^" + "1+".repeat(200));
+        check.fault("^" + "@".repeat(400));
+        check.fault("^" + "a1".repeat(200));
+    }
+
     static void theFirstWrongTokenIsToldAheadOfLaterOnes(Check check) {
         check.fault("set s ^@@@");
         check.fault("set ^1 abcde 12345 . <");

@@ -84,6 +84,22 @@ public final class Promise05NameTest {
         check.answers(x, 'r', "name", 3, 0, 0);
     }
 
+    static void namesOfEarlierModelsHaveGone(Check check) {
+        String many = "set a=1..0;set b=1..0;data c=1;data d=1;var f in 0..1;var g in 0..1;rule h:1=1;rule k:1=1;";
+        String few = "set l=1..0;data m=1;var n in 0..1;rule o:1=1;";
+        Scene x = Scene.fresh();
+        for (int i = 0; i < 5; i++) {
+            x = x.feed(many).and("read");
+            check.answers(x.feed(few).and("read"), 'o', "name", 3, 0, 0);
+            for (int sort = 0; sort < 4; sort++) {
+                check.refuses(x.feed(few).and("read"), UNKNOWN, "name", sort, 1, 0);
+                check.refuses(x.feed(few).and("read").feed(few).and("read"), UNKNOWN, "name", sort, 1, 0);
+                check.refuses(x.and("read"), UNKNOWN, "name", sort, 0, 0);
+                check.refuses(x.and("read").and("read"), UNKNOWN, "name", sort, 0, 0);
+            }
+        }
+    }
+
     static void namesOfARefusedTextAreNotTold(Check check) {
         Scene x = Scene.model("rule r:1=1;").feed("set a=0..1;data b=1;var c in 0..1;rule d:1=1;@").and("read");
         check.answers(x, 'r', "name", 3, 0, 0);
