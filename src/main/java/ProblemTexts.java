@@ -10,6 +10,8 @@ public final class ProblemTexts {
     private static final int MOST_COLUMNS = 40, MOST_ROWS = 40, MOST_WORK = 20000;
     /** A NAME and its colon, 40 times " - 9223372036854775808*abcd[9999,9999]", REL and RIGHT. */
     private static final int MOST_PRINTED = 6 + 38 * MOST_COLUMNS + 25;
+    /** The digits of 9223372036854775808. */
+    private static final int MOST_SIZE = 19;
     /** Far above MOST_WORK, and so low that no product or sum of such runs over. */
     private static final long MANY_TIMES = 1000000000L;
     private static final int FIRST_FAULT = -10;
@@ -374,10 +376,11 @@ public final class ProblemTexts {
         /** Works below 0, since the least long has no counterpart above it. */
         void addSize(long number) {
             long rest = number > 0 ? -number : number;
-            int end = length + 1;
-            for (long more = rest / 10; more != 0; more /= 10) {
-                end++;
+            int digits = 1;
+            for (long more = rest / 10; more != 0 && digits < MOST_SIZE; more /= 10) {
+                digits++;
             }
+            int end = length + digits;
             if (end > held.length) {
                 return;
             }
@@ -1082,7 +1085,7 @@ public final class ProblemTexts {
         private Factor readNamed() {
             int sort = to.names.sortOf(tokens.named());
             int which = to.names.find(sort, tokens.named());
-            if (sort != INDICES && sort != TABLES && sort != VARS) {
+            if (which == NONE || sort != INDICES && sort != TABLES && sort != VARS) {
                 tokens.refuse();
                 return null;
             }
